@@ -121,8 +121,7 @@ public final class WhichClub {
             return NO_ANSWER;
         }
         int c = cc % 10;
-        int ways = what == 0 ? hole.waysToWater(cc / 10, c) : hole.waysToGreen(cc / 10, c);
-        return partOf(ways, hole.waysOf(c), part);
+        return partOf(hole.waysInto(what == 0, cc / 10, c), hole.waysOf(c), part);
     }
 
     public int believed(int cell) {
@@ -146,7 +145,7 @@ public final class WhichClub {
         if (!Hole.isCell(cell) || n < 0 || n > MOST_SHOTS || part < 0 || part > 2) {
             return NO_ANSWER;
         }
-        long mean = reckoning.mean(cell, n, Reckoning.BEST);
+        long mean = reckoning.meanAtBest(cell, n);
         if (part < 2) {
             return partOf(mean, Reckoning.unit(n), part);
         }
@@ -157,7 +156,7 @@ public final class WhichClub {
         if (!Hole.isCell(cell) || n < 0 || n > MOST_SHOTS || !isFractionPart(part)) {
             return NO_ANSWER;
         }
-        return partOf(reckoning.mean(cell, n, Reckoning.LAWFUL), Reckoning.unit(n), part);
+        return partOf(reckoning.meanByLaw(cell, n), Reckoning.unit(n), part);
     }
 
     public long lie(int cell, int n, int part) {
@@ -166,7 +165,7 @@ public final class WhichClub {
             return NO_ANSWER;
         }
         long unit = Reckoning.unit(n);
-        long untold = reckoning.mean(cell, n, Reckoning.LAWFUL);
+        long untold = reckoning.meanByLaw(cell, n);
         int x = reckoning.bestLie(cell, n, 1);
         long told = reckoning.meanTold(cell, n, x);
         if (part < 2) {
@@ -707,22 +706,14 @@ public final class WhichClub {
             return found;
         }
 
-        int waysToWater(int from, int c) {
+        /** In how many ways a shot comes down in water, or else on the green. */
+        int waysInto(boolean water, int from, int c) {
             int aim = aim(from, carryOf(c));
             int spread = spreadOf(c);
             int found = 0;
             for (int slip = -spread; slip <= spread; slip++) {
-                found += isWater(held(aim + slip)) ? 1 : 0;
-            }
-            return found;
-        }
-
-        int waysToGreen(int from, int c) {
-            int aim = aim(from, carryOf(c));
-            int spread = spreadOf(c);
-            int found = 0;
-            for (int slip = -spread; slip <= spread; slip++) {
-                found += isGreen(held(aim + slip)) ? 1 : 0;
+                int falls = held(aim + slip);
+                found += (water ? isWater(falls) : isGreen(falls)) ? 1 : 0;
             }
             return found;
         }
@@ -732,7 +723,7 @@ public final class WhichClub {
             int farthest = -1;
             for (int c = 0; c < size; c++) {
                 int goes = Math.abs(aim(cell, carryOf(c)) - cell);
-                if (goes > farthest && waysToWater(cell, c) == 0) {
+                if (goes > farthest && waysInto(true, cell, c) == 0) {
                     farthest = goes;
                     best = c;
                 }
@@ -1119,12 +1110,18 @@ public final class WhichClub {
         // -- strokes
 
         /** Strokes on the mean with n shots ahead of the green, in units of n. */
-        long mean(int cell, int n, int way) {
+        long meanAtBest(int cell, int n) {
+            return mean(cell, n, BEST);
+        }
+
+        long meanByLaw(int cell, int n) {
+            findLawfulClubs();
+            return mean(cell, n, LAWFUL);
+        }
+
+        private long mean(int cell, int n, int way) {
             if (!Hole.isCell(cell) || n < 0 || n > MOST_SHOTS) {
                 return 0;
-            }
-            if (way == LAWFUL) {
-                findLawfulClubs();
             }
             long[] means = way == LAWFUL ? lawfulMeans : bestMeans;
             int asked = n * Hole.CELLS + cell;
@@ -1210,7 +1207,7 @@ public final class WhichClub {
 
         // -- lies about yards
 
-        /** That one shot as he takes it told x more, then by the law; mean() by the law has been asked for. */
+        /** That one shot as he takes it told x more, then by the law, once meanByLaw() has been asked for. */
         long meanTold(int cell, int n, int x) {
             return meanByClub(cell, clubTold(cell, x), n, LAWFUL);
         }
@@ -1278,10 +1275,10 @@ public final class WhichClub {
         }
 
         long costOfBelief() {
-            long now = mean(0, TOLD_SHOTS, LAWFUL);
+            long now = meanByLaw(0, TOLD_SHOTS);
             undeceived = true;
             forget();
-            long then = mean(0, TOLD_SHOTS, LAWFUL);
+            long then = meanByLaw(0, TOLD_SHOTS);
             undeceived = false;
             forget();
             return now - then;
