@@ -145,7 +145,7 @@ public final class WhichClub {
         if (!Hole.isCell(cell) || n < 0 || n > MOST_SHOTS || part < 0 || part > 2) {
             return NO_ANSWER;
         }
-        long mean = reckoning.meanAtBest(cell, n);
+        long mean = reckoning.mean(cell, n, Reckoning.BEST);
         if (part < 2) {
             return partOf(mean, Reckoning.unit(n), part);
         }
@@ -1043,12 +1043,15 @@ public final class WhichClub {
         private final long[] lawfulMeans = new long[5 * Hole.CELLS];
         private final int[] bestClubs = new int[5 * Hole.CELLS];
         private final int[] lawfulClubs = new int[Hole.CELLS];
+        private boolean hasBestMeans = false;
+        private boolean hasLawfulMeans = false;
         private boolean lawfulFound = false;
-        private boolean meansFound = false;
         private boolean practiceFound = false;
+        private boolean costFound = false;
         private boolean undeceived = false;
         private int practiceWhich = 0;
         private long practiceGain = 0;
+        private long cost = 0;
 
         Reckoning(Hole hole, Law text) {
             this.hole = hole;
@@ -1057,12 +1060,24 @@ public final class WhichClub {
 
         /** To be called whenever a number, a club or the law changes. */
         void forget() {
-            lawfulFound = false;
             practiceFound = false;
-            if (meansFound) {
+            costFound = false;
+            forgetBest();
+            forgetLawful();
+        }
+
+        private void forgetBest() {
+            if (hasBestMeans) {
                 Arrays.fill(bestMeans, 0L);
+                hasBestMeans = false;
+            }
+        }
+
+        private void forgetLawful() {
+            lawfulFound = false;
+            if (hasLawfulMeans) {
                 Arrays.fill(lawfulMeans, 0L);
-                meansFound = false;
+                hasLawfulMeans = false;
             }
         }
 
@@ -1109,28 +1124,25 @@ public final class WhichClub {
 
         // -- strokes
 
-        /** Strokes on the mean with n shots ahead of the green, in units of n. */
-        long meanAtBest(int cell, int n) {
-            return mean(cell, n, BEST);
-        }
-
         long meanByLaw(int cell, int n) {
             findLawfulClubs();
             return mean(cell, n, LAWFUL);
         }
 
-        private long mean(int cell, int n, int way) {
+        /** Strokes on the mean with n shots ahead of the green, in units of n. */
+        long mean(int cell, int n, int way) {
             if (!Hole.isCell(cell) || n < 0 || n > MOST_SHOTS) {
                 return 0;
             }
             long[] means = way == LAWFUL ? lawfulMeans : bestMeans;
+            hasLawfulMeans |= way == LAWFUL;
+            hasBestMeans |= way == BEST;
             int asked = n * Hole.CELLS + cell;
             // each mean stands on those with one shot less, from any cell
             for (int at = 0; at <= asked && at < means.length; at++) {
                 boolean isNeeded = at == asked || at < n * Hole.CELLS;
                 if (isNeeded && means[at] == 0) {
                     means[at] = workOut(at % Hole.CELLS, at / Hole.CELLS, way);
-                    meansFound = true;
                 }
             }
             return asked < means.length ? means[asked] : 0;
@@ -1267,21 +1279,26 @@ public final class WhichClub {
                 return mean(0, TOLD_SHOTS, BEST);
             }
             hole.become(number, what, was + more);
-            forget();
+            forgetBest();
             long practised = mean(0, TOLD_SHOTS, BEST);
             hole.become(number, what, was);
-            forget();
+            forgetBest();
             return practised;
         }
 
         long costOfBelief() {
+            if (costFound) {
+                return cost;
+            }
             long now = meanByLaw(0, TOLD_SHOTS);
             undeceived = true;
-            forget();
+            forgetLawful();
             long then = meanByLaw(0, TOLD_SHOTS);
             undeceived = false;
-            forget();
-            return now - then;
+            forgetLawful();
+            cost = now - then;
+            costFound = true;
+            return cost;
         }
     }
 

@@ -620,6 +620,15 @@ public final class PromisesOfStrokes {
         w.mend(0, 4, 18);
         best(w, 19, 1, 2, 1, 2);
         best(w, 19, 0, 2, 1, -2);
+        WhichClub other = with(101);
+        best(other, 5, 0, 5, 1, -2);
+        lawful(other, 6, 0, 4, 1);
+        other.mend(0, 4, 10);
+        best(other, 5, 0, 3, 1, -2);
+        lawful(other, 6, 0, 2, 1);
+        due(17, "dream(0)", other.dream(0), 0);
+        other.mend(0, 4, 29);
+        lawful(other, 0, 0, 7, 1);
         w.mend(0, 5, 3);
         due(12, "in the wind", w.strokes(0, 1, 2), 1);
     }
