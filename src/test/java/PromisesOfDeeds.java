@@ -209,21 +209,31 @@ public final class PromisesOfDeeds {
     }
 
     private static void undoForty() {
-        WhichClub w = new WhichClub();
+        WhichClub w = with(0, 10);
+        int[] number = new int[45];
+        int[] what = new int[45];
+        int[] was = new int[45];
+        int[] became = new int[45];
         for (int i = 0; i < 45; i++) {
-            w.mend(0, 4, i % 2 == 0 ? 1 + i / 2 % 20 : 21 + i % 9);
+            what[i] = i % 3 == 0 ? 0 : i % 3 == 1 ? 1 : 4;
+            number[i] = what[i] == 0 ? i % 20 : what[i] == 1 ? i % 2 : 0;
+            became[i] = what[i] == 0 ? 1 + i % 2 + (i >= 20 ? 2 : 0) : what[i] == 1 ? 3 + i % 27 : 1 + i % 19;
+            was[i] = w.mend(number[i], what[i], became[i]);
+            due(27, "each is a change", was[i] != became[i] ? 1 : 0, 1);
             due(27, "kept", w.count(4), Math.min(40, i + 1));
         }
-        int fifth = 1 + 4 / 2 % 20;
-        for (int i = 39; i >= 0; i--) {
-            due(27, "undo", w.undo(), i);
+        for (int i = 44; i >= 5; i--) {
+            due(27, "undo", w.undo(), i - 5);
+            due(27, "as it was", w.of(number[i], what[i]), was[i]);
         }
         due(27, "no more than forty", w.undo(), -5);
-        due(27, "as the fifth told it", w.of(0, 4), fifth);
-        for (int i = 39; i >= 0; i--) {
-            due(28, "redo", w.redo(), i);
+        due(27, "as the first told it", w.of(number[0], what[0]), became[0]);
+        due(27, "as the fifth told it", w.of(number[4], what[4]), became[4]);
+        for (int i = 5; i < 45; i++) {
+            due(28, "redo", w.redo(), 44 - i);
+            due(28, "as it became", w.of(number[i], what[i]), became[i]);
         }
-        due(28, "as the last told it", w.of(0, 4), 1 + 44 / 2 % 20);
+        due(28, "none", w.redo(), -5);
     }
 
     private static void redo() {
@@ -334,7 +344,8 @@ public final class PromisesOfDeeds {
         WhichClub w = new WhichClub();
         due(30, "no words", w.act(0, 0, 5), 0);
         w.body(0);
-        int[][] bad = {{-1, 0}, {1, 0}, {50, 0}, {0, -1}, {0, 4}, {Integer.MIN_VALUE, Integer.MIN_VALUE}};
+        w.body(1);
+        int[][] bad = {{-1, 0}, {2, 0}, {50, 0}, {0, -1}, {1, -1}, {0, 4}, {1, 4}, {Integer.MIN_VALUE, Integer.MIN_VALUE}};
         for (int[] b : bad) {
             due(30, "a word", w.act(0, 1, 5), 10);
             due(31, "a trace", w.trace(0), 10);
@@ -537,12 +548,20 @@ public final class PromisesOfDeeds {
         due(38, "and not as water", w.count(2), 1);
         w.mend(0, 4, 21);
         due(38, "green", w.count(1), 12);
+        w.mend(0, 0, 3);
+        due(38, "water at the tee", w.count(2), 3);
+        w.mend(0, 0, 4);
+        due(38, "green at the tee", w.count(1), 13);
+        w.mend(30, 0, 3);
+        due(38, "water in the last cell", w.count(2), 3);
+        w.mend(30, 0, 4);
+        w.mend(0, 0, 0);
         w.feed('d');
         w.feed(0);
         due(38, "bytes", w.count(3), 2);
-        due(38, "changes", w.count(4), 6);
+        due(38, "changes", w.count(4), 11);
         w.undo();
-        due(38, "changes", w.count(4), 5);
+        due(38, "changes", w.count(4), 10);
         w.body(0);
         w.body(7);
         due(38, "bodies", w.count(5), 2);

@@ -88,6 +88,9 @@ public final class PromisesOfStrokes {
         best(w, 10, 1, 7, 2, 0);
         // once more: 1 + (1 + 7/2 + 5/2) / 3
         best(w, 10, 2, 10, 3, 0);
+        WhichClub wide = with(102);
+        // 18, 19: 2; 20: 1; 21, 22: 3/2
+        best(wide, 10, 1, 13, 5, 0);
         w.mend(0, 6, 12);
         best(w, 21, 3, 1, 1, -2);
         w.mend(0, 6, 0);
@@ -148,6 +151,7 @@ public final class PromisesOfStrokes {
         lawful(w, 0, 1, 3, 1);
         lawful(w, 0, 2, 7, 2);
         lawful(w, 0, 3, 7, 2);
+        lawful(w, 0, 4, 7, 2);
         lawful(w, 0, 0, 6, 1);
         lawful(w, 20, 3, 1, 1);
         lawful(w, 21, 3, 3, 2);
@@ -312,6 +316,8 @@ public final class PromisesOfStrokes {
         w.mend(0, 6, 12);
         practice(w, 0, 1, 0);
         practice(new WhichClub(), 0, 1, 0);
+        // three shots do not come to the green: no touch helps
+        practice(with(60), 0, 1, 0);
         due(16, "practise(3)", w.practise(3), NONE);
         due(16, "practise(-1)", w.practise(-1), NONE);
     }
@@ -348,6 +354,14 @@ public final class PromisesOfStrokes {
         // 29 is taken, to the pin; 25 would be
         due(17, "below 0", w.dream(0), -1);
         due(17, "below 0", w.dream(1), 2);
+        w = with(60, 90);
+        w.mend(27, 0, 2);
+        text(w, "d<5&c=10&k");
+        // only a fourth shot would be another one
+        due(17, "three shots", w.dream(0), 0);
+        due(13, "four shots", w.byLaw(0, 4, 0), 7);
+        w.mend(1, 3, 0);
+        due(13, "four shots", w.byLaw(0, 4, 0), 11);
         due(17, "dream(2)", w.dream(2), NONE);
         due(17, "dream(-1)", w.dream(-1), NONE);
         due(17, "no clubs", new WhichClub().dream(0), 0);

@@ -156,6 +156,10 @@ public final class PromisesOfTheHole {
         due(3, "until FULL", w.clubs(0, 0, 6), 4);
         due(3, "six", w.count(0), 6);
         due(3, "FULL", w.clubs(0, 0, 6), 0);
+        WhichClub all = new WhichClub();
+        bytes(all, 0, 0, 0, 0, 1, 0, 0, 2, 0, 0, 3, 0, 0, 4, 0, 0, 5, 0, 0, 6, 0, 0);
+        due(3, "six of them, to the end", all.clubs(0, 3, 6), 6);
+        due(3, "the last", all.of(5, 1), 6);
         due(3, "no changes", w.count(4), 0);
         w.row(0, 0, 0);
         due(3, "an empty row", w.clubs(0, 0, 1), 0);
@@ -260,6 +264,8 @@ public final class PromisesOfTheHole {
         due(7, "seven (", text(new WhichClub(), "(((((((d)))))))"), -106);
         due(7, "mixed six", text(new WhichClub(), "(!-(!-d))"), 1);
         due(7, "mixed seven", text(new WhichClub(), "(!-(!-(d)))"), -106);
+        due(7, "six behind ?", text(new WhichClub(), "!!!!!!d?------c|((((((s))))))"), 1);
+        due(7, "seven behind ?", text(new WhichClub(), "d?!!!!!!!c"), -108);
         due(7, "six again behind six", text(new WhichClub(), "!!!!!!d+------c"), 1);
         due(7, "within brackets", text(new WhichClub(), "(!!!!!d*-----c)"), 1);
         due(7, "within brackets, seven", text(new WhichClub(), "(!!!!!d*------c)"), -113);
@@ -307,6 +313,16 @@ public final class PromisesOfTheHole {
         value("7%0", "0");
         value("24/4/3", "2");
         value("2*7%4", "2");
+        value("7+8/2", "11");
+        value("7+9%4", "8");
+        value("10-2*3", "4");
+        value("10-2+3", "11");
+        value("8/2*3", "12");
+        value("3-1<2+1", "1");
+        value("2=1+1", "1");
+        value("0&1|1", "1");
+        value("1|1&0", "1");
+        value("2>1&1", "1");
         value("5&6", "1");
         value("5&0", "0");
         value("0|0", "0");
@@ -342,6 +358,10 @@ public final class PromisesOfTheHole {
         due(7, "last line", w.believed(0), 2);
         due(7, "none counts: 0", text(w, "k=0?0-1;k=1?0-1"), 1);
         due(7, "none counts: 0", w.believed(0), 2);
+        due(7, "none counts: 0", text(w, "k=1?1"), 1);
+        due(7, "none counts: 0", w.believed(0), 1);
+        due(7, "a | behind ?", text(w, "k?0|k=2;0"), 1);
+        due(7, "a | behind ?", w.believed(0), 2);
         due(7, "like ones", text(w, "1"), 1);
         due(7, "the least number", w.believed(0), 0);
         due(7, "a first line without a first E counts", text(w, "0-k;k"), 1);
@@ -397,6 +417,10 @@ public final class PromisesOfTheHole {
         w.mend(0, 0, 1);
         lie(w, 2, 0, 2, 3);
         lie(w, 2, 1, 1, 3);
+        w.mend(2, 1, 0);
+        lie(w, 2, 1, 1, 3);
+        w.mend(2, 2, 0);
+        lie(w, 2, 0, 1, 1);
         int[][] bad = {{-1, 0, 0}, {4, 0, 0}, {9, 0, 0}, {200, 20, 0}, {300, 0, 0}, {310, 0, 0}, {0, -1, 0}, {0, 31, 0}, {0, 0, 2}, {0, 0, -1}};
         for (int[] b : bad) {
             due(8, "lies(" + b[0] + ", " + b[1] + ", " + b[2] + ")", w.lies(b[0], b[1], b[2]), NONE);
@@ -506,6 +530,13 @@ public final class PromisesOfTheHole {
         due(11, "no cell", w.layUp(-1), -1);
         due(11, "no cell", w.layUp(31), -1);
         due(11, "no clubs", new WhichClub().layUp(0), -2);
+        WhichClub behind = with(50, 100, 80);
+        behind.mend(0, 4, 10);
+        behind.mend(25, 0, 0);
+        due(11, "backward", behind.layUp(25), 1);
+        behind.mend(15, 0, 3);
+        due(11, "backward, short of water", behind.layUp(25), 2);
+        due(11, "from the middle", behind.layUp(5), 2);
         WhichClub far = with(150, 200, 300);
         due(11, "the farthest, though the hole ends", far.layUp(19), 2);
         far.mend(30, 0, 3);
