@@ -1135,8 +1135,11 @@ public final class WhichClub {
                 return 0;
             }
             long[] means = way == LAWFUL ? lawfulMeans : bestMeans;
-            hasLawfulMeans |= way == LAWFUL;
-            hasBestMeans |= way == BEST;
+            if (way == LAWFUL) {
+                hasLawfulMeans = true;
+            } else {
+                hasBestMeans = true;
+            }
             int asked = n * Hole.CELLS + cell;
             // each mean stands on those with one shot less, from any cell
             for (int at = 0; at <= asked && at < means.length; at++) {
@@ -1260,9 +1263,9 @@ public final class WhichClub {
             }
             long now = mean(0, TOLD_SHOTS, BEST);
             int which = 0;
-            long gain = now - meanPractised(0, Hole.TOUCH, 1);
+            long gain = gainBy(now, 0, Hole.TOUCH, 1);
             for (int c = 0; c < hole.clubsHeld(); c++) {
-                long gained = now - meanPractised(c, Hole.SPREAD, -1);
+                long gained = gainBy(now, c, Hole.SPREAD, -1);
                 if (gained > gain) {
                     gain = gained;
                     which = c + 1;
@@ -1273,17 +1276,18 @@ public final class WhichClub {
             practiceFound = true;
         }
 
-        private long meanPractised(int number, int what, int more) {
+        /** How much less than now it would be with this number changed by so much; it is only thought of. */
+        private long gainBy(long now, int number, int what, int more) {
             int was = hole.numberAt(number, what);
             if (!hole.allows(what, was + more)) {
-                return mean(0, TOLD_SHOTS, BEST);
+                return 0;
             }
             hole.become(number, what, was + more);
             forgetBest();
             long practised = mean(0, TOLD_SHOTS, BEST);
             hole.become(number, what, was);
             forgetBest();
-            return practised;
+            return now - practised;
         }
 
         long costOfBelief() {
