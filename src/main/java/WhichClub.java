@@ -55,7 +55,7 @@ public final class WhichClub {
     }
 
     public int clubs(int shelf, int i, int n) {
-        if (!isShelf(shelf) || i < 0 || n < 1 || n > Hole.MOST_CLUBS) {
+        if (!isShelf(shelf) || n < 1 || n > Hole.MOST_CLUBS) {
             return BAD;
         }
         Shelf from = shelves[shelf];
@@ -578,7 +578,7 @@ public final class WhichClub {
 
         int addClubs(Shelf row, int i, int n) {
             for (int came = 0; came < n && came < MOST_CLUBS; came++) {
-                // the row's end is looked for first: behind it i could wrap
+                // looked for first: a place that is not there, below 0 too, is where the row ends, and i could wrap
                 if (isFull() || !row.hasPlaces(i, 3 * came + 3)) {
                     return came;
                 }

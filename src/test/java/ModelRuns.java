@@ -304,7 +304,7 @@ public final class ModelRuns {
         }
 
         int clubs(int shelf, int i, int n) {
-            if (shelf < 0 || shelf > 5 || i < 0 || n < 1 || n > 6) {
+            if (shelf < 0 || shelf > 5 || n < 1 || n > 6) {
                 return -1;
             }
             if (shelves[shelf] == null) {
@@ -314,7 +314,7 @@ public final class ModelRuns {
                 return -12;
             }
             int came = 0;
-            for (long at = i; came < n && at + 2 < row.length && clubs.size() < 6; at += 3, came++) {
+            for (long at = i; came < n && at >= 0 && at + 2 < row.length && clubs.size() < 6; at += 3, came++) {
                 int[] c = {row[(int) at], row[(int) at + 1], row[(int) at + 2]};
                 if (c[0] < 0 || c[0] > 30 || c[1] < 0 || c[1] > 3 || c[2] < 0 || c[2] > 9) {
                     break;

@@ -115,7 +115,10 @@ public final class PromisesOfTheHole {
         due(3, "no such shelf", w.clubs(-1, 0, 3), -1);
         due(3, "n 0", w.clubs(0, 0, 0), -1);
         due(3, "n 7", w.clubs(0, 0, 7), -1);
-        due(3, "place below 0", w.clubs(0, -1, 1), -1);
+        due(3, "missing row, place below 0", w.clubs(0, -1, 1), 0);
+        due(3, "missing row, least place", w.clubs(0, Integer.MIN_VALUE, 6), 0);
+        due(3, "BAD n, place below 0", w.clubs(0, -1, 0), -1);
+        due(3, "no such shelf, place below 0", w.clubs(6, -1, 1), -1);
         w.body(0);
         w.keep(1, 0);
         due(3, "a word", w.clubs(1, 0, 1), -12);
@@ -124,6 +127,7 @@ public final class PromisesOfTheHole {
         w.row(1, 4, 9);
         due(3, "booleans", w.clubs(1, 0, 1), -12);
         due(3, "BAD ahead of -12", w.clubs(1, 0, 0), -1);
+        due(3, "booleans, place below 0", w.clubs(1, -1, 1), -12);
         bytes(w, 0, 99, 22, 3, 2, 30, 0, 9, 0, 1, 0);
         due(3, "from place 1", w.clubs(0, 1, 2), 2);
         due(3, "two", w.count(0), 2);
@@ -143,6 +147,9 @@ public final class PromisesOfTheHole {
         due(3, "within the first three", w.clubs(0, 3, 2), 0);
         due(3, "at the end", w.clubs(0, 5, 2), 0);
         due(3, "behind the end", w.clubs(0, Integer.MAX_VALUE, 6), 0);
+        for (int place : new int[] {-1, -3, -15, -18, Integer.MIN_VALUE, Integer.MIN_VALUE + 1}) {
+            due(3, "place " + place, w.clubs(0, place, 6), 0);
+        }
         due(3, "one", w.count(0), 1);
         int[][] notSo = {{31, 0, 0}, {-1, 0, 0}, {0, 4, 0}, {0, -1, 0}, {0, 0, 10}, {0, 0, -1}};
         for (int[] three : notSo) {
