@@ -735,24 +735,28 @@ public final class WhichClub {
 
         /** Of 12 to the power of the holes, in how many one is at least even at the end. */
         int waysToBeEven(int behind, int holes) {
-            if (holes <= 0 || holes > 2) {
-                return behind <= 0 ? 1 : 0;
-            }
-            return Math.max(waysSafe(behind, holes), waysBold(behind, holes));
+            return waysAtBest(behind, holes);
         }
 
         boolean isBoldBetter(int behind, int holes) {
             return waysBold(behind, holes) > waysSafe(behind, holes);
         }
 
+        private int waysAtBest(int behind, int holes) {
+            if (holes <= 0 || holes > 2) {
+                return behind <= 0 ? 1 : 0;
+            }
+            return Math.max(waysSafe(behind, holes), waysBold(behind, holes));
+        }
+
         private int waysSafe(int behind, int holes) {
-            return 12 * waysToBeEven(behind, holes - 1);
+            return 12 * waysAtBest(behind, holes - 1);
         }
 
         private int waysBold(int behind, int holes) {
-            return bold * waysToBeEven(behind - 1, holes - 1)
-                + risk * waysToBeEven(behind + 2, holes - 1)
-                + (12 - bold - risk) * waysToBeEven(behind, holes - 1);
+            return bold * waysAtBest(behind - 1, holes - 1)
+                + risk * waysAtBest(behind + 2, holes - 1)
+                + (12 - bold - risk) * waysAtBest(behind, holes - 1);
         }
     }
 

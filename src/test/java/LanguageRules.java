@@ -210,7 +210,21 @@ public final class LanguageRules {
                 fault(2, "anonymous: " + tree);
             }
             called(here(tree));
+            madeIn(tree);
             return super.visitNewClass(tree, none);
+        }
+
+        @Override
+        public Void visitNewArray(NewArrayTree tree, Void none) {
+            madeIn(tree);
+            return super.visitNewArray(tree, none);
+        }
+
+        /** All calls of one run share one room: what there is, is made with the object, and none of it by a call. */
+        private void madeIn(Tree tree) {
+            if (method != null && method.getKind() != ElementKind.CONSTRUCTOR) {
+                fault(12, method + " makes " + tree);
+            }
         }
 
         private void called(Element to) {
@@ -254,7 +268,24 @@ public final class LanguageRules {
                 if (m.getModifiers().contains(javax.lang.model.element.Modifier.PUBLIC) && deepest.size() > 8) {
                     fault(11, deepest.size() + " calls deep: " + deepest);
                 }
+                if (!m.getModifiers().contains(javax.lang.model.element.Modifier.PRIVATE) && reached(m).contains(m)) {
+                    fault(8, m + " comes back to itself and is not private");
+                }
             }
+        }
+
+        /** All that a method calls, and what these call. */
+        private Set<Element> reached(Element from) {
+            Set<Element> all = new LinkedHashSet<>(calls.get(from));
+            List<Element> open = new ArrayList<>(all);
+            for (int i = 0; i < open.size(); i++) {
+                for (Element to : calls.getOrDefault(open.get(i), Set.of())) {
+                    if (all.add(to)) {
+                        open.add(to);
+                    }
+                }
+            }
+            return all;
         }
 
         /** The longest chain of calls in which no method comes twice. */

@@ -13,8 +13,10 @@ import java.util.Random;
  * with the class: fractions of big numbers, plain recursion, texts split at their operators.
  */
 public final class ModelRuns {
-    private static final int RUNS = 500;
-    private static final int CALLS = 400;
+    private static final int RUNS = 1500;
+    // an object is used for at most 512 calls, and a step makes at most some 70 of them
+    private static final int CALLS = 512;
+    private static final int CALLS_OF_A_STEP = 75;
     private static final long NONE = Long.MIN_VALUE;
 
     public static void main(String[] args) {
@@ -24,11 +26,11 @@ public final class ModelRuns {
         for (int run = 1; run <= runs && wrong < 10; run++) {
             Caller caller = new Caller(run);
             List<String> told = new ArrayList<>();
-            for (int i = 0; i < CALLS; i++) {
+            for (int i = 0; told.size() + CALLS_OF_A_STEP <= CALLS; i++) {
                 String fault = caller.next(told, answered);
                 if (fault != null) {
                     wrong++;
-                    System.out.println("run " + run + ", call " + i + ": " + fault);
+                    System.out.println("run " + run + ", step " + i + ": " + fault);
                     if (args.length > 1) {
                         told.forEach(System.out::println);
                     }

@@ -1,17 +1,5 @@
 /** Promises 22 to 38: shots in deed, changes undone, words and their acts, shelves. Worked out by hand. */
-public final class PromisesOfDeeds {
-    private static final long NONE = Long.MIN_VALUE;
-    private static int wrong = 0;
-    private static int asked = 0;
-
-    private static void due(int promise, String what, long got, long want) {
-        asked++;
-        if (got != want) {
-            wrong++;
-            System.out.println("promise " + promise + ": " + what + " answered " + got + ", due is " + want);
-        }
-    }
-
+public final class PromisesOfDeeds extends Checks {
     public static void main(String[] args) {
         hit();
         hitEdges();
@@ -34,18 +22,7 @@ public final class PromisesOfDeeds {
         shiftEdges();
         taken();
         count();
-        System.out.println(wrong == 0 ? asked + " answers are as due" : wrong + " answers are not as due");
-        if (wrong != 0) {
-            System.exit(1);
-        }
-    }
-
-    private static WhichClub with(int... clubs) {
-        WhichClub w = new WhichClub();
-        for (int cs : clubs) {
-            w.club(cs);
-        }
-        return w;
+        finish();
     }
 
     private static int slip(int seed, int spread) {

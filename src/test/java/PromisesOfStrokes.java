@@ -1,17 +1,5 @@
 /** Promises 12 to 21: strokes on the mean, lies, the pin, practice, rounds told, draws. Worked out by hand. */
-public final class PromisesOfStrokes {
-    private static final long NONE = Long.MIN_VALUE;
-    private static int wrong = 0;
-    private static int asked = 0;
-
-    private static void due(int promise, String what, long got, long want) {
-        asked++;
-        if (got != want) {
-            wrong++;
-            System.out.println("promise " + promise + ": " + what + " answered " + got + ", due is " + want);
-        }
-    }
-
+public final class PromisesOfStrokes extends Checks {
     public static void main(String[] args) {
         strokes();
         strokesByBest();
@@ -34,32 +22,11 @@ public final class PromisesOfStrokes {
         drawnByDraws();
         drawnEdges();
         nothingIsLeftOver();
-        System.out.println(wrong == 0 ? asked + " answers are as due" : wrong + " answers are not as due");
-        if (wrong != 0) {
-            System.exit(1);
-        }
+        finish();
     }
 
-    private static WhichClub with(int... clubs) {
-        WhichClub w = new WhichClub();
-        for (int cs : clubs) {
-            w.club(cs);
-        }
-        return w;
-    }
-
-    private static void bytes(WhichClub w, int shelf, int... vs) {
-        w.row(shelf, 0, vs.length);
-        for (int i = 0; i < vs.length; i++) {
-            w.put(shelf, i, vs[i]);
-        }
-    }
-
-    private static void text(WhichClub w, String s) {
-        for (int i = 0; i < s.length(); i++) {
-            w.feed(s.charAt(i));
-        }
-        due(7, s, w.law(), 1);
+    private static void law(WhichClub w, String s) {
+        due(7, s, text(w, s), 1);
     }
 
     private static void best(WhichClub w, int cell, int n, long above, long below, long club) {
@@ -155,9 +122,9 @@ public final class PromisesOfStrokes {
         lawful(w, 0, 0, 6, 1);
         lawful(w, 20, 3, 1, 1);
         lawful(w, 21, 3, 3, 2);
-        text(w, "0-k");
+        law(w, "0-k");
         lawful(w, 0, 3, 2, 1);
-        text(w, "k");
+        law(w, "k");
         lawful(w, 0, 1, 3, 1);
         w.mend(1, 2, 1);
         // 18, 19, 20
@@ -190,7 +157,7 @@ public final class PromisesOfStrokes {
         told(w, 8, 1, 2, 1, 0, 0, 1, 0, 1);
         // of 10 he takes 10
         told(w, 10, 1, 2, 1, 0, 0, 1, 0, 1);
-        text(w, "d<9&k");
+        law(w, "d<9&k");
         // untold he takes 10, told less than 9 he takes 12: from 8, x is -4, and half of it does nothing
         told(w, 8, 1, 2, 1, -4, 1, 1, 0, 1);
     }
@@ -203,16 +170,16 @@ public final class PromisesOfStrokes {
         w.mend(19, 0, 4);
         // of 11 he takes 9 (to 18: 3); of 10 he takes 10 (to 19), of 12 he takes 12 (to 21): both 5/2
         told(w, 9, 1, 5, 2, -1, 1, 2, 1, 2);
-        text(w, "k=1?d=9;k=2?d=14;0");
+        law(w, "k=1?d=9;k=2?d=14;0");
         // -2 is nearer 0 than 3
         told(w, 9, 1, 5, 2, -2, 1, 2, 1, 2);
-        text(w, "k=1?d=8;k=2?d=13;0");
+        law(w, "k=1?d=8;k=2?d=13;0");
         told(w, 9, 1, 5, 2, 2, 1, 2, 1, 2);
-        text(w, "k=1?d=6;k=2?d=17;0");
+        law(w, "k=1?d=6;k=2?d=17;0");
         told(w, 9, 1, 5, 2, -5, 1, 2, 0, 1);
-        text(w, "k=1?d=5;k=2?d=17;0");
+        law(w, "k=1?d=5;k=2?d=17;0");
         told(w, 9, 1, 3, 1, 0, 0, 1, 0, 1);
-        text(w, "k=1?d=0-2;0");
+        law(w, "k=1?d=0-2;0");
         w.mend(17, 0, 1);
         // from 17, 3 cells, told as -2: 10 from the rough to 26
         told(w, 17, 1, 5, 2, 0, 0, 1, 0, 1);
@@ -233,18 +200,18 @@ public final class PromisesOfStrokes {
         w.mend(0, 3, 1);
         // 10 to 19: 3; 17 to 26: 5/2, once he is told 15: too much for half of it
         told(w, 9, 1, 5, 2, 4, 1, 2, 0, 1);
-        text(w, "k&d>11&d<14");
+        law(w, "k&d>11&d<14");
         // 12 or 13: x 1; half of 2 is 1
         told(w, 9, 1, 5, 2, 1, 1, 2, 1, 2);
-        text(w, "k&d=13");
+        law(w, "k&d=13");
         // x 2; half of 4 is 2
         told(w, 9, 1, 5, 2, 2, 1, 2, 1, 2);
-        text(w, "k&d=10");
+        law(w, "k&d=10");
         // half of -3 is -1, cut toward 0
         told(w, 9, 1, 5, 2, -1, 1, 2, 1, 2);
-        text(w, "k&d=9");
+        law(w, "k&d=9");
         told(w, 9, 1, 5, 2, -2, 1, 2, 1, 2);
-        text(w, "k&d=8");
+        law(w, "k&d=8");
         told(w, 9, 1, 5, 2, -3, 1, 2, 0, 1);
     }
 
@@ -350,13 +317,13 @@ public final class PromisesOfStrokes {
         w = with(200, 250);
         w.mend(0, 3, 9);
         w.mend(1, 3, 0);
-        text(w, "c");
+        law(w, "c");
         // 29 is taken, to the pin; 25 would be
         due(17, "below 0", w.dream(0), -1);
         due(17, "below 0", w.dream(1), 2);
         w = with(60, 90);
         w.mend(27, 0, 2);
-        text(w, "d<5&c=10&k");
+        law(w, "d<5&c=10&k");
         // only a fourth shot would be another one
         due(17, "three shots", w.dream(0), 0);
         due(13, "four shots", w.byLaw(0, 4, 0), 7);
@@ -500,7 +467,7 @@ public final class PromisesOfStrokes {
         due(20, "none", w.guessed(0), 0);
         bytes(w, 0, 0, 0, 1, 0, 0);
         due(20, "an end that lacks", w.guessed(0), 1);
-        text(w, "k");
+        law(w, "k");
         due(20, "by the text", w.guessed(0), 0);
         bytes(w, 0, 0, 1, 1);
         due(20, "by the text", w.guessed(0), 1);
@@ -616,7 +583,7 @@ public final class PromisesOfStrokes {
         w.mend(1, 1, 12);
         w.mend(0, 3, 9);
         lawful(w, 10, 1, 5, 2);
-        text(w, "0-k");
+        law(w, "0-k");
         w.mend(0, 2, 0);
         lawful(w, 10, 1, 2, 1);
         w.undo();

@@ -1,17 +1,5 @@
 /** Promises 1 to 11: the new object, the hole and its clubs, the law's text, a single shot. Worked out by hand. */
-public final class PromisesOfTheHole {
-    private static final long NONE = Long.MIN_VALUE;
-    private static int wrong = 0;
-    private static int asked = 0;
-
-    private static void due(int promise, String what, long got, long want) {
-        asked++;
-        if (got != want) {
-            wrong++;
-            System.out.println("promise " + promise + ": " + what + " answered " + got + ", due is " + want);
-        }
-    }
-
+public final class PromisesOfTheHole extends Checks {
     public static void main(String[] args) {
         newObject();
         club();
@@ -32,32 +20,7 @@ public final class PromisesOfTheHole {
         believed();
         believedInWind();
         layUp();
-        System.out.println(wrong == 0 ? asked + " answers are as due" : wrong + " answers are not as due");
-        if (wrong != 0) {
-            System.exit(1);
-        }
-    }
-
-    private static WhichClub with(int... clubs) {
-        WhichClub w = new WhichClub();
-        for (int cs : clubs) {
-            w.club(cs);
-        }
-        return w;
-    }
-
-    private static void bytes(WhichClub w, int shelf, int... vs) {
-        w.row(shelf, 0, vs.length);
-        for (int i = 0; i < vs.length; i++) {
-            w.put(shelf, i, vs[i]);
-        }
-    }
-
-    private static int text(WhichClub w, String s) {
-        for (int i = 0; i < s.length(); i++) {
-            w.feed(s.charAt(i));
-        }
-        return w.law();
+        finish();
     }
 
     private static void newObject() {
