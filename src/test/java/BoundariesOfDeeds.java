@@ -399,13 +399,15 @@ public final class BoundariesOfDeeds extends Checks {
 
     // ---- words
 
-    /** Fifty words, the last of kind 7, and an act of it. */
+    /** Fifty words, the first and the last on shelves, and an act of the last. */
     private static WhichClub allBodies() {
         WhichClub w = with(100);
         for (int i = 0; i < 50; i++) {
             w.body(i % 8 == 1 ? 7 : i % 8);
         }
         w.act(49, 3, 5);
+        w.keep(0, 49);
+        w.keep(1, 0);
         return w;
     }
 
