@@ -1622,6 +1622,7 @@ public final class WhichClub {
         private static final int SAYS = 0;
         private static final int HITS = 1;
         private static final int LIES = 2;
+        private static final int TELLS = 3;
         private static final int MOST_KEPT = 24;
         // the kinds are four deep and no act comes back to itself: no run needs more calls
         private static final int DEEPEST = 40;
@@ -1746,10 +1747,10 @@ public final class WhichClub {
                 case 40: return call(word, above, LIES, x, depth) * 3;
                 case 41: return call(word, above, HITS, x + 1, depth);
                 case 50: return call(word, above, LIES, x, depth) - call(word, own, SAYS, 2, depth);
-                case 60: return call(word, above, ACTS - 1, x, depth) ^ 5;
+                case 60: return call(word, above, TELLS, x, depth) ^ 5;
                 case 70: return call(word, above, SAYS, x, depth) * 2;
                 case 80: return call(word, above, HITS, x, depth) + call(word, own, LIES, 2, depth);
-                case 81: return call(word, above, ACTS - 1, x, depth) - 1;
+                case 81: return call(word, above, TELLS, x, depth) - 1;
                 default: return 0;
             }
         }
